@@ -38,12 +38,27 @@ public final class RandomTest {
     }
 
     private void play() throws Exception {
-        int houses = pick(0, 6);
+        int houses = dice.nextInt(7);
         for (int i = 0; i < houses; i++) {
             call("house", pick(0, 143));
         }
+        if (dice.nextInt(4) > 0) {
+            settle();
+        }
         while (told.size() < CALLS && !wrong) {
             step();
+        }
+    }
+
+    /** Many runs begin with a town in which much may burn and many ask. */
+    private void settle() throws Exception {
+        for (int i = 0; i < 12; i++) {
+            call("mend", house(), 1 + dice.nextInt(4), pick(2, 9));
+            call("mend", dice.nextInt(9), 5, pick(3, 9));
+        }
+        int cards = dice.nextInt(13);
+        for (int i = 0; i < cards; i++) {
+            call("card", house(), dice.nextInt(3) == 0 ? -1 : dice.nextInt(8));
         }
     }
 
@@ -87,7 +102,7 @@ public final class RandomTest {
             case 4, 5, 6 -> mend();
             case 7 -> call("of", dice.nextBoolean() ? house() : card(), pick(0, 10));
             case 8 -> tellLaw();
-            case 9 -> call("feed", pick(0, 255));
+            case 9 -> call("feed", dice.nextInt(9) > 0 ? 256 : pick(0, 255));
             case 10 -> call("likes", card(), day());
             case 11 -> call("accepts", day(), pick(0, 1));
             case 12 -> call("visits", house(), day());
@@ -106,8 +121,8 @@ public final class RandomTest {
             case 28, 29 -> call("pass", dice.nextInt(3) > 0 ? 0 : set());
             case 30 -> call("build", house());
             case 31 -> call("led", dice.nextBoolean() ? pick(0, 4) : 10 + house());
-            case 32 -> call("image");
-            case 33 -> call(dice.nextInt(4) == 0 ? "back" : "undo");
+            case 32 -> call(dice.nextInt(2) == 0 ? "image" : "back");
+            case 33 -> call("undo");
             case 34 -> call("redo");
             case 35 -> call("body", pick(0, 7));
             case 36, 37 -> acts();
@@ -207,8 +222,9 @@ public final class RandomTest {
     private void beliefs() throws Exception {
         int shelf = dice.nextInt(6);
         if (dice.nextInt(4) > 0) {
-            call("row", shelf, 0, pick(0, 14));
-            for (int i = 0; i < 14; i++) {
+            int n = dice.nextInt(dice.nextInt(4) == 0 ? 15 : 5);
+            call("row", shelf, 0, n);
+            for (int i = 0; i < n; i++) {
                 call("put", shelf, i, dice.nextInt(40) == 0 ? pick(-1, 4) : dice.nextInt(4) == 0 ? 3 : 2 * dice.nextInt(2));
             }
         }
