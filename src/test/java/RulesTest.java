@@ -1,0 +1,137 @@
+import java.lang.reflect.Constructor;
+import java.lang.reflect.Field;
+import java.lang.reflect.Member;
+import java.lang.reflect.Method;
+import java.lang.reflect.Modifier;
+import java.nio.file.Files;
+import java.nio.file.Path;
+import java.util.ArrayList;
+import java.util.List;
+import java.util.Set;
+import java.util.TreeSet;
+import java.util.regex.Matcher;
+import java.util.regex.Pattern;
+import java.util.stream.Collectors;
+import java.util.stream.Stream;
+
+/** What can be told of LANGUAGE.md from the source (read from the project's folder) and from the compiled class. */
+public final class RulesTest {
+    private static final String SOURCE = "src/main/java/AskedFire.java";
+    private static final String FACE = "house(int) card(int,int) cards(int,int,int) mend(int,int,int) of(int,int) "
+        + "feed(int) law() likes(int,int) accepts(int,int) visits(int,int) first(int) odds(int,int) "
+        + "burns(int,int,int):long mean(int,int):long plan(int,int):long planned(int,int) ask(int) "
+        + "sweeten(int,int,int) evening(int,int) belief(int,int,int,int):long lists(int) judge(int) "
+        + "read(int,int,int) drawn(int,int,int) pass(int) build(int) led(int) image() back() undo() redo() "
+        + "body(int) act(int,int,int) trace(int) keep(int,int) row(int,int,int) put(int,int,long) "
+        + "element(int,int):long shift(int,int,int,int,int) taken(int,int) count(int)";
+    private static int wrong = 0;
+
+    private static void rule(int number, String what, boolean holds) {
+        if (!holds) {
+            wrong++;
+            System.out.println("rule " + number + ": " + what);
+        }
+    }
+
+    public static void main(String[] args) throws Exception {
+        face();
+        classes();
+        String source = Files.readString(Path.of(SOURCE));
+        words(source.replaceAll("(?s)/\\*.*?\\*/", "").replaceAll("//[^\n]*", ""));
+        methods(source);
+        System.out.println(wrong == 0 ? "all rules hold" : wrong + " rules are broken");
+        if (wrong != 0) {
+            System.exit(1);
+        }
+    }
+
+    private static String form(Method m) {
+        String params = Stream.of(m.getParameterTypes()).map(Class::getName).collect(Collectors.joining(","));
+        return m.getName() + "(" + params + ")" + (m.getReturnType() == long.class ? ":long" : "");
+    }
+
+    private static void face() {
+        Class<?> face = AskedFire.class;
+        rule(1, "public and final", Modifier.isPublic(face.getModifiers()) && Modifier.isFinal(face.getModifiers()));
+        Set<String> have = new TreeSet<>();
+        for (Method m : face.getDeclaredMethods()) {
+            if (Modifier.isPrivate(m.getModifiers()) || m.isSynthetic()) {
+                continue;
+            }
+            rule(1, m + " is not public", Modifier.isPublic(m.getModifiers()) && !Modifier.isStatic(m.getModifiers()));
+            have.add(form(m));
+        }
+        Set<String> want = new TreeSet<>(List.of(FACE.split(" ")));
+        rule(1, "face has " + have + ", due " + want, have.equals(want));
+        Set<String> constants = new TreeSet<>();
+        for (Field f : face.getDeclaredFields()) {
+            if (Modifier.isPublic(f.getModifiers())) {
+                constants.add(f.getName());
+            } else {
+                rule(1, f + " is not private", Modifier.isPrivate(f.getModifiers()));
+            }
+        }
+        rule(1, "constants " + constants, constants.equals(Set.of("BAD", "NOT", "FULL", "STATE", "VOID")));
+        Constructor<?>[] made = face.getDeclaredConstructors();
+        rule(1, "one public constructor", made.length == 1 && Modifier.isPublic(made[0].getModifiers()));
+    }
+
+    private static void classes() {
+        List<Class<?>> all = new ArrayList<>(List.of(AskedFire.class.getDeclaredClasses()));
+        Set<String> publics = Stream.of(AskedFire.class.getDeclaredMethods())
+            .filter(m -> Modifier.isPublic(m.getModifiers())).map(Method::getName).collect(Collectors.toSet());
+        for (Class<?> inner : all) {
+            rule(1, inner + " is private and static",
+                Modifier.isPrivate(inner.getModifiers()) && Modifier.isStatic(inner.getModifiers()));
+        }
+        all.add(AskedFire.class);
+        rule(11, "at most twelve classes", all.size() <= 12);
+        for (Class<?> c : all) {
+            long fields = Stream.of(c.getDeclaredFields()).filter(f -> !Modifier.isStatic(f.getModifiers())).count();
+            rule(11, c + " has " + fields + " fields", fields <= 20);
+            for (Field f : c.getDeclaredFields()) {
+                rule(5, f + " is final", !Modifier.isStatic(f.getModifiers()) || Modifier.isFinal(f.getModifiers()));
+            }
+            for (Method m : c.getDeclaredMethods()) {
+                rule(11, m + " takes at most seven", m.getParameterCount() <= 7);
+                rule(1, m + " has a public one's name", isOfFace(m) || !publics.contains(m.getName()));
+            }
+        }
+    }
+
+    private static boolean isOfFace(Member m) {
+        return m.getDeclaringClass() == AskedFire.class && Modifier.isPublic(m.getModifiers());
+    }
+
+    private static void words(String code) {
+        for (String word : List.of("throw", "throws", "try", "catch", "finally", "synchronized", "assert", "import",
+                "package", "float", "double", "Object", "System\\.(?!arraycopy)", "Thread", "native", "Exact", "String")) {
+            Matcher found = Pattern.compile("\\b" + word + (word.endsWith(")") ? "" : "\\b")).matcher(code);
+            rule(6, "the word " + word, !found.find());
+        }
+        rule(2, "lambda or method reference", !code.contains("->") && !code.contains("::"));
+        rule(4, "a text", code.indexOf('"') < 0);
+        rule(4, "signs 0 to 127", code.chars().allMatch(c -> c < 128));
+        rule(9, "an endless loop", !Pattern.compile("while \\(true\\)|for \\(;;\\)").matcher(code).find());
+        Matcher called = Pattern.compile("\\b(Math|Integer|Long|Arrays)\\.(\\w+)").matcher(code);
+        while (called.find()) {
+            rule(4, called.group(), Set.of("max", "min", "abs", "bitCount").contains(called.group(2)));
+        }
+    }
+
+    /** Methods by their lines, told by how far they stand from the left. */
+    private static void methods(String source) {
+        String[] lines = source.split("\n");
+        for (int i = 0; i < lines.length; i++) {
+            Matcher head = Pattern.compile("^(    |        )\\S[^=;]*\\) \\{$").matcher(lines[i]);
+            if (head.matches()) {
+                int end = i;
+                while (end < lines.length && !lines[end].equals(head.group(1) + "}")) {
+                    end++;
+                }
+                rule(11, lines[i].trim() + " is " + (end - i) + " lines long", end - i <= 60);
+            }
+            rule(11, "line " + (i + 1) + " is long", lines[i].length() <= 120);
+        }
+    }
+}
