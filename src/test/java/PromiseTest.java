@@ -528,6 +528,9 @@ public final class PromiseTest {
         due(17, "one day", x.planned(1, 0), 1);
         due(17, "of like ones the least first", x.planned(2, 0), 1);
         due(17, "then the other", x.planned(2, 1), 2);
+        x.mend(0, 7, 29);
+        due(17, "beyond day 29, one was there", x.planned(2, 1), -2);
+        x.mend(0, 7, 0);
         x.mend(1, 5, 0);
         due(17, "none, where nothing may burn", x.planned(2, 1), -2);
         x.mend(0, 5, 0);
@@ -565,6 +568,10 @@ public final class PromiseTest {
         x.mend(0, 2, 0);
         due(18, "never liked", x.ask(0), -2);
         due(18, "no card came", x.count(1), 2);
+        x.mend(0, 2, 5);
+        x.mend(0, 7, 29);
+        due(18, "on the last day", x.ask(0), 29);
+        x.mend(0, 7, 8);
         x.pass(2);
         due(18, "it does not stand", x.ask(1), -2);
         AskedFire y = town(1);
@@ -602,6 +609,8 @@ public final class PromiseTest {
         y.mend(1, 5, 9);
         // Day 0: 5 c - 20 must not be above 0, day 1: 9 c - 20 must be: c 3 or 4.
         due(19, "all days anew", y.sweeten(0, 1, 0), 3);
+        tell(y, "d>5&c<4");
+        due(19, "cake 0", y.sweeten(0, 1, 0), 0);
         tell(y, "5-f*d/5");
         y.mend(1, 5, 1);
         // Day 0: 5 - f must not be above 0; day 1: 5 - f/5.
@@ -644,6 +653,14 @@ public final class PromiseTest {
         due(20, "3 ahead of 0 and 1", x.evening(11, 0), 3);
         due(20, "then 0 would make 1 late", x.evening(11, 1), 1);
         due(20, "0 last", x.evening(11, 2), 0);
+        x.house(143);
+        x.house(142);
+        for (int house = 0; house < 6; house++) {
+            x.mend(house, 0, 143 - house);
+            x.mend(house, 4, 1);
+        }
+        due(20, "all six lost", x.evening(63, -1), 6);
+        due(20, "all six lost, by numbers", x.evening(63, 5), 5);
         x.pass(15);
         due(20, "of houses that do not stand", x.evening(15, 4), -2);
     }
@@ -942,6 +959,12 @@ public final class PromiseTest {
         due(30, "changes stay", x.count(3), 1);
         x.pass(0);
         due(30, "the image is still there", x.back(), 1);
+        AskedFire y = town(1);
+        y.card(0, -1);
+        y.image();
+        y.pass(0);
+        y.back();
+        due(30, "card 0 not used as then", y.of(0, 10), 0);
         x.mend(0, 7, 20);
         due(29, "a later one", x.image(), 20);
         x.mend(0, 7, 3);
@@ -980,11 +1003,13 @@ public final class PromiseTest {
         due(31, "count", y.count(3), 40);
         for (int i = 39; i >= 0; i--) {
             due(31, "of forty", y.undo(), i);
+            due(31, "cell behind it", y.of(0, 0), i + 5);
         }
         due(31, "forty at most", y.undo(), -5);
         due(31, "cell", y.of(0, 0), 5);
         for (int i = 39; i >= 0; i--) {
             due(32, "of forty", y.redo(), i);
+            due(32, "cell behind it", y.of(0, 0), 45 - i);
         }
         due(32, "none", y.redo(), -5);
         due(32, "cell", y.of(0, 0), 45);

@@ -5,7 +5,7 @@ import java.util.Random;
 
 /** Runs of calls by fixed seeds on the class and on NaiveClub: both must answer alike, call by call. */
 public final class RandomTest {
-    private static final int RUNS = 60, CALLS = 500;
+    private static final int RUNS = 600, CALLS = 500;
     private static final String LETTERS = "cfdrhn0123456789()!-+*/%<=>&|?;";
 
     private final Random dice;
