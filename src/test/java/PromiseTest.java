@@ -1,7 +1,5 @@
 /** Each promise of the document by examples, the edges it names, and wrong inputs; answers worked out by hand. */
-public final class PromiseTest {
-    private static final long NONE = Long.MIN_VALUE;
-    private static final int VOID = -2000000000;
+public final class PromiseTest extends Bench {
     private static int wrong = 0;
 
     private static void due(int promise, String what, long got, long want) {
@@ -59,29 +57,6 @@ public final class PromiseTest {
         if (wrong != 0) {
             System.exit(1);
         }
-    }
-
-    /** A club with so many houses, in cells 0, 1, .. */
-    private static AskedFire town(int houses) {
-        AskedFire x = new AskedFire();
-        for (int i = 0; i < houses; i++) {
-            x.house(i);
-        }
-        return x;
-    }
-
-    private static void bytes(AskedFire x, int shelf, int... v) {
-        x.row(shelf, 0, v.length);
-        for (int i = 0; i < v.length; i++) {
-            x.put(shelf, i, v[i]);
-        }
-    }
-
-    private static int tell(AskedFire x, String text) {
-        for (int i = 0; i < text.length(); i++) {
-            x.feed(text.charAt(i));
-        }
-        return x.law();
     }
 
     private static void newObject() {
@@ -238,11 +213,11 @@ public final class PromiseTest {
             {"1 ", -101}, {"12?34;56?78", 1}, {"c;?", -102}, {"1(", -101}, {"c<", -102}, {"!", -101},
         };
         for (Object[] fault : faults) {
-            due(8, (String) fault[0], tell(x, (String) fault[0]), (Integer) fault[1]);
+            due(8, (String) fault[0], law(x, (String) fault[0]), (Integer) fault[1]);
             due(8, "tape behind " + fault[0], x.count(2), 0);
         }
-        tell(x, "7");
-        tell(x, "8+");
+        law(x, "7");
+        law(x, "8+");
         due(8, "a fault leaves the law", x.likes(0, 0), 7);
         x.feed(128);
         due(8, "a byte above 127", x.law(), -100);
@@ -279,10 +254,10 @@ public final class PromiseTest {
             {"!12+3", 3}, {"1|0&0", 1}, {"(1|0)&0", 0},
         };
         for (Object[] worth : worths) {
-            due(8, "law " + worth[0], tell(x, (String) worth[0]), 1);
+            due(8, "law " + worth[0], law(x, (String) worth[0]), 1);
             due(9, "likes by " + worth[0], x.likes(0, 0), (Integer) worth[1]);
         }
-        tell(x, "9-n*4");
+        law(x, "9-n*4");
         x.pass(0);
         due(9, "n in deed", x.likes(0, 1), 5);
         x.card(1, 1);
@@ -292,19 +267,19 @@ public final class PromiseTest {
     private static void lawDepth() {
         AskedFire x = town(1);
         x.card(0, -1);
-        due(8, "6 brackets", tell(x, "((((((c))))))"), 1);
-        due(8, "7 brackets", tell(x, "(((((((c)))))))"), -106);
-        due(8, "6 of !", tell(x, "!!!!!!c"), 1);
-        due(8, "7 of -", tell(x, "-------c"), -106);
-        due(8, "mixed 6", tell(x, "-(!(-(c)))"), 1);
-        due(8, "mixed 7", tell(x, "-(!(-(!c)))"), -106);
-        due(8, "closed ones do not count", tell(x, "((((((c))))))+((((((c))))))+!!!!!!c"), 1);
-        due(8, "a - between does not count", tell(x, "((((((c-f-d))))))"), 1);
-        due(8, "! within 6", tell(x, "((((((c-!f))))))"), -108);
-        due(8, "- within 5 and one ! ahead", tell(x, "!(((((c))))))"), -112);
-        due(8, "a name closes a !", tell(x, "(((((!c+!f-!d)))))"), 1);
-        due(8, "a number closes a -", tell(x, "(((((-12+-34-(5))))))"), 1);
-        due(8, "brackets lack", tell(x, "((((((c)))))"), -112);
+        due(8, "6 brackets", law(x, "((((((c))))))"), 1);
+        due(8, "7 brackets", law(x, "(((((((c)))))))"), -106);
+        due(8, "6 of !", law(x, "!!!!!!c"), 1);
+        due(8, "7 of -", law(x, "-------c"), -106);
+        due(8, "mixed 6", law(x, "-(!(-(c)))"), 1);
+        due(8, "mixed 7", law(x, "-(!(-(!c)))"), -106);
+        due(8, "closed ones do not count", law(x, "((((((c))))))+((((((c))))))+!!!!!!c"), 1);
+        due(8, "a - between does not count", law(x, "((((((c-f-d))))))"), 1);
+        due(8, "! within 6", law(x, "((((((c-!f))))))"), -108);
+        due(8, "- within 5 and one ! ahead", law(x, "!(((((c))))))"), -112);
+        due(8, "a name closes a !", law(x, "(((((!c+!f-!d)))))"), 1);
+        due(8, "a number closes a -", law(x, "(((((-12+-34-(5))))))"), 1);
+        due(8, "brackets lack", law(x, "((((((c)))))"), -112);
     }
 
     private static void likes() {
@@ -605,13 +580,13 @@ public final class PromiseTest {
         AskedFire y = town(1);
         y.card(0, -1);
         due(19, "used on day 0 by any cake, so never on day 1", y.sweeten(0, 1, 0), -2);
-        tell(y, "d*c-20");
+        law(y, "d*c-20");
         y.mend(1, 5, 9);
         // Day 0: 5 c - 20 must not be above 0, day 1: 9 c - 20 must be: c 3 or 4.
         due(19, "all days anew", y.sweeten(0, 1, 0), 3);
-        tell(y, "d>5&c<4");
+        law(y, "d>5&c<4");
         due(19, "cake 0", y.sweeten(0, 1, 0), 0);
-        tell(y, "5-f*d/5");
+        law(y, "5-f*d/5");
         y.mend(1, 5, 1);
         // Day 0: 5 - f must not be above 0; day 1: 5 - f/5.
         due(19, "all days anew, feud", y.sweeten(0, 1, 1), 9);

@@ -1,4 +1,3 @@
-import java.lang.reflect.Method;
 import java.util.ArrayList;
 import java.util.List;
 import java.util.Random;
@@ -18,7 +17,7 @@ public final class RandomTest {
         dice = new Random(seed);
     }
 
-    public static void main(String[] args) throws Exception {
+    public static void main(String[] args) {
         int runs = args.length > 0 ? Integer.parseInt(args[0]) : RUNS;
         long from = args.length > 1 ? Long.parseLong(args[1]) : 1;
         int failed = 0;
@@ -37,7 +36,7 @@ public final class RandomTest {
         }
     }
 
-    private void play() throws Exception {
+    private void play() {
         int houses = dice.nextInt(7);
         for (int i = 0; i < houses; i++) {
             call("house", pick(0, 143));
@@ -51,7 +50,7 @@ public final class RandomTest {
     }
 
     /** Many runs begin with a town in which much may burn and many ask. */
-    private void settle() throws Exception {
+    private void settle() {
         for (int i = 0; i < 12; i++) {
             call("mend", house(), 1 + dice.nextInt(4), pick(2, 9));
             call("mend", dice.nextInt(9), 5, pick(3, 9));
@@ -94,7 +93,7 @@ public final class RandomTest {
         return pick(0, 5);
     }
 
-    private void step() throws Exception {
+    private void step() {
         switch (dice.nextInt(45)) {
             case 0 -> call("house", pick(0, 143));
             case 1, 2 -> call("card", house(), dice.nextInt(3) == 0 ? -1 : day());
@@ -136,7 +135,7 @@ public final class RandomTest {
         }
     }
 
-    private void mend() throws Exception {
+    private void mend() {
         int what = pick(0, 7);
         int[] most = {143, 12, 9, 9, 9, 9, 29, 29};
         // NOW goes back more often than on, so that days are left.
@@ -148,7 +147,7 @@ public final class RandomTest {
         }
     }
 
-    private void rowOfCards() throws Exception {
+    private void rowOfCards() {
         int shelf = dice.nextInt(6);
         if (dice.nextInt(3) > 0) {
             call("row", shelf, 0, pick(0, 7));
@@ -159,7 +158,7 @@ public final class RandomTest {
         call("cards", shelf, pick(0, 3), pick(1, 4));
     }
 
-    private void tellLaw() throws Exception {
+    private void tellLaw() {
         String text = dice.nextInt(6) == 0 ? noise() : lines();
         if (dice.nextInt(5) == 0 && !text.isEmpty()) {
             int at = dice.nextInt(text.length());
@@ -212,14 +211,14 @@ public final class RandomTest {
         return how == 8 ? "!" + operand(depth - 1) : how == 9 ? "-" + operand(depth - 1) : "(" + expression(depth - 1) + ")";
     }
 
-    private void plans() throws Exception {
+    private void plans() {
         int t = pick(0, dice.nextInt(4) == 0 ? 4 : 3);
         call("plan", t, 0);
         call("plan", t, 1);
         call("planned", t, pick(0, t - 1));
     }
 
-    private void beliefs() throws Exception {
+    private void beliefs() {
         int shelf = dice.nextInt(6);
         if (dice.nextInt(4) > 0) {
             int n = dice.nextInt(dice.nextInt(4) == 0 ? 15 : 5);
@@ -235,7 +234,7 @@ public final class RandomTest {
     }
 
     /** A ROW as the naive club tells who is VISITED, at times with one told otherwise. */
-    private void readBack() throws Exception {
+    private void readBack() {
         int shelf = dice.nextInt(6);
         if (dice.nextInt(5) > 0) {
             int n = dice.nextInt(6);
@@ -249,32 +248,19 @@ public final class RandomTest {
         call("read", shelf, house(), pick(0, 3));
     }
 
-    private void acts() throws Exception {
+    private void acts() {
         call("act", pick(0, Math.max(0, naive.bodies.size() - 1)), pick(0, 3), dice.nextInt(3) == 0 ? dice.nextInt() : pick(-9, 9));
         call("count", 5);
         call("trace", pick(0, 9));
     }
 
-    private void call(String name, Number... args) throws Exception {
+    private void call(String name, Number... args) {
         if (wrong) {
             return;
         }
-        long got = answer(fire, name, args);
-        long due = answer(naive, name, args);
+        long got = Bench.answer(fire, name, args);
+        long due = Bench.answer(naive, name, args);
         told.add(name + java.util.Arrays.toString(args) + " -> " + got + (got == due ? "" : ", due " + due));
         wrong = got != due;
-    }
-
-    private static long answer(Object on, String name, Number... args) throws Exception {
-        for (Method method : on.getClass().getDeclaredMethods()) {
-            if (method.getName().equals(name) && method.getParameterCount() == args.length) {
-                Object[] given = new Object[args.length];
-                for (int i = 0; i < args.length; i++) {
-                    given[i] = method.getParameterTypes()[i] == long.class ? (Object) args[i].longValue() : args[i].intValue();
-                }
-                return ((Number) method.invoke(on, given)).longValue();
-            }
-        }
-        throw new IllegalStateException(name);
     }
 }
