@@ -1056,7 +1056,7 @@ public final class AskedFire {
                 if (step == -';') {
                     return values[0];
                 }
-                if (step == -'?') {
+                if (step == -'?' && i + 1 < steps) {
                     top = 0;
                     i = values[0] == 0 ? Math.max(i, program[i + 1] - 1) : i + 1;
                 } else if (isPlain(step) && top < STACK) {

@@ -3,6 +3,9 @@ import java.lang.reflect.InvocationTargetException;
 import java.lang.reflect.Method;
 import java.nio.file.Files;
 import java.nio.file.Path;
+import java.util.Arrays;
+import java.util.HashMap;
+import java.util.Map;
 import java.util.function.IntToLongFunction;
 
 /** What the tests of edges share: the sentence that is tested, checks, and short ways to a town. */
@@ -13,6 +16,7 @@ abstract class Bench {
     static final long NONE = Long.MIN_VALUE;
 
     private static final String DOCUMENT = document();
+    private static final Map<String, Method> METHODS = new HashMap<>();
     private static String sentence = "";
     private static int sentences;
     private static int checks;
@@ -130,24 +134,26 @@ abstract class Bench {
 
     /** Calls a method by its name. */
     static long answer(Object on, String name, Number... args) {
-        for (Method method : on.getClass().getDeclaredMethods()) {
-            if (method.getName().equals(name) && method.getParameterCount() == args.length) {
-                Object[] given = new Object[args.length];
-                for (int i = 0; i < args.length; i++) {
-                    boolean wide = method.getParameterTypes()[i] == long.class;
-                    given[i] = wide ? (Object) args[i].longValue() : (Object) args[i].intValue();
-                }
-                return invoke(method, on, given);
-            }
+        Method method = METHODS.computeIfAbsent(on.getClass().getName() + " " + name + " " + args.length,
+            key -> find(on.getClass(), name, args.length));
+        Object[] given = new Object[args.length];
+        for (int i = 0; i < args.length; i++) {
+            boolean wide = method.getParameterTypes()[i] == long.class;
+            given[i] = wide ? (Object) args[i].longValue() : (Object) args[i].intValue();
         }
-        throw new IllegalStateException("no call " + name + " of " + args.length);
-    }
-
-    private static long invoke(Method method, Object on, Object[] given) {
         try {
             return ((Number) method.invoke(on, given)).longValue();
         } catch (IllegalAccessException | InvocationTargetException e) {
-            throw new IllegalStateException(method.getName(), e);
+            throw new IllegalStateException(name + Arrays.toString(args), e);
         }
+    }
+
+    private static Method find(Class<?> of, String name, int params) {
+        for (Method method : of.getDeclaredMethods()) {
+            if (method.getName().equals(name) && method.getParameterCount() == params) {
+                return method;
+            }
+        }
+        throw new IllegalStateException("no call " + name + " of " + params);
     }
 }

@@ -9,6 +9,7 @@ public final class EveningEdgesTest extends Bench {
         staysAnHour();
         fewestTooLate();
         firstByNumbers();
+        everyTwoCells();
         goesToLostOnes();
         belief();
         beliefTwelveDays();
@@ -150,6 +151,32 @@ public final class EveningEdgesTest extends Bench {
         way("all alike", inCells(5, 5, 5), 7, 1, 2 + 3 + 4, 0, 1, 2);
         way("a set without 0", inCells(5, 5, 5, 5), 14, 1, 2 + 3 + 4, 1, 2, 3);
         way("all lost", wood(inCells(143, 143, 143), 1, 1, 1), 7, 3, 6 + 7 + 8, 0, 1, 2);
+        way("all six lost", wood(inCells(143, 143, 143, 143, 143, 143), 1, 1, 1, 1, 1, 1), 63, 6,
+            6 + 7 + 8 + 9 + 10 + 11, 0, 1, 2, 3, 4, 5);
+    }
+
+    private static int hours(int from, int to) {
+        int apart = Math.abs(from % 12 - to % 12) + Math.abs(from / 12 - to / 12);
+        return apart / 4 + (apart % 4 == 0 ? 0 : 1);
+    }
+
+    private static void everyTwoCells() {
+        says("the engine leaves the club's house at hour 0");
+        for (int first = 0; first < 144; first++) {
+            for (int second = 0; second < 144; second++) {
+                int there = hours(0, first);
+                int then = there + 1 + hours(first, second);
+                int back = hours(0, second);
+                int last = back + 1 + hours(second, first);
+                int lost = (there > 9 ? 1 : 0) + (then > 9 ? 1 : 0);
+                int otherwise = (back > 9 ? 1 : 0) + (last > 9 ? 1 : 0);
+                boolean byNumbers = lost <= otherwise;
+                AskedFire x = wood(inCells(first, second), 9, 9);
+                due(first + ", " + second + ": lost", x.evening(3, -1), Math.min(lost, otherwise));
+                due(first + ", " + second + ": sum", x.evening(3, -2), byNumbers ? there + then : back + last);
+                due(first + ", " + second + ": first", x.evening(3, 0), byNumbers ? 0 : 1);
+            }
+        }
     }
 
     private static void goesToLostOnes() {
@@ -251,6 +278,8 @@ public final class EveningEdgesTest extends Bench {
         fraction("burned, not visited", seen(6, 1), 9, 0, 1);
         fraction("visited, not burned", seen(6, 2), 9, 1, 25);
         fraction("both", seen(6, 3), 9, 1, 9);
+        // 1 * 12 against 12 * 1.
+        fraction("as likely as not", seen(1, 3), 12, 1, 2);
         says("else it burns by ODDS on any day");
         fraction("odds 0, not burned", seen(0, 0), 9, 1, 13);
         fraction("odds 12, not burned", seen(12, 0), 9, 1, 1);
@@ -320,6 +349,15 @@ public final class EveningEdgesTest extends Bench {
         due("two houses", x.lists(0), 1);
         x.card(2, 0);
         due("three houses", x.lists(0), 1);
+        AskedFire any = asked(2, -1);
+        any.card(1, -1);
+        due("both without a day", any.lists(0), 0);
+        int[] days = {3, 17, 29};
+        for (int day : days) {
+            any.card(0, day);
+            any.card(1, day);
+        }
+        due("three days", any.lists(0), 1 << 3 | 1 << 17 | 1 << 29);
         AskedFire y = town(2);
         y.card(0, 0);
         y.card(1, 0);

@@ -8,6 +8,7 @@ public final class LawEdgesTest extends Bench {
         tapeIsFull();
         tapeIsEmptyThen();
         faultLeavesTheLaw();
+        eachTextForItself();
         firstByte();
         byteBehindAName();
         byteBehindADigit();
@@ -125,6 +126,26 @@ public final class LawEdgesTest extends Bench {
         due("9", x.likes(0, 0), 9);
     }
 
+    private static void eachTextForItself() {
+        says("THE TAPE is empty then.");
+        String[] texts = {"c", "!c", "-c", "(c)", "-(c)", "c+1", "c*2+1", "c<9", "12", "12?34", "n?3;4", "n?3", "!!!!!!c",
+            "((((((c))))))", "1|1&1<1+1*1", "1?2;3?4;5", "!", "-", "(", "((((((", "!!!!!!", "(-!(", "c+", "c<", "c<f", "c<f<d",
+            "c?", "c?f?", "n?1;", "n?1;c?", "1234", "12345", "123", "c5", "1c", "(1)5", "(((((((", "((((((c+", "c|f&d=r-1*",
+            "", ")", "c)", "?", ";", "1+c5", "7"};
+        for (String first : texts) {
+            for (String second : texts) {
+                AskedFire x = asked(1, 0);
+                int answer = law(x, first);
+                int before = x.likes(0, 0);
+                AskedFire alone = asked(1, 0);
+                int want = law(alone, second);
+                due("\"" + second + "\" behind \"" + first + "\"", law(x, second), want);
+                due("worth of it", x.likes(0, 0), want == 1 ? alone.likes(0, 0) : before);
+                due("\"" + first + "\" again", law(x, first), answer);
+            }
+        }
+    }
+
     private static boolean among(String signs, int letter) {
         return signs.indexOf(letter) >= 0;
     }
@@ -155,6 +176,11 @@ public final class LawEdgesTest extends Bench {
         everyByte("123", DIGITS, JOINING + "?;");
         everyByte("1234", "", JOINING + "?;");
         everyByte("0000", "", JOINING + "?;");
+        everyByte("1+c", "", JOINING + "?;");
+        everyByte("1;c", "", JOINING + "?;");
+        everyByte("1?c", "", JOINING + ";");
+        everyByte("(1)", "", JOINING + "?;");
+        everyByte("1234+1", DIGITS, JOINING + "?;");
     }
 
     private static void byteWithinBrackets() {

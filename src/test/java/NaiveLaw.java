@@ -12,6 +12,7 @@ final class NaiveLaw {
     }
 
     static final class Wrong extends RuntimeException {
+        private static final long serialVersionUID = 1;
     }
 
     static int faultOf(String text) {

@@ -8,25 +8,6 @@ import java.util.List;
 public final class RefusalTest extends Bench {
     private static final int MOST_CALLS = 512;
 
-    private static final String NEW = "";
-
-    private static final String RICH = """
-        house 13; house 40; house 100; house 143; mend 1 1 9; mend 2 1 12; mend 1 2 8; mend 2 3 2; mend 0 4 1;
-        mend 2 5 9; mend 1 5 0; card 0 0; card 1 0; card 2 2; card 1 -1; card 0 3; card 2 -1; card 3 6; card 0 -1;
-        feed 99; feed 42; feed 50; feed 45; feed 110; law;
-        body 0; body 5; body 7; act 1 3 4; pass 8; image; pass 1; build 3; house 60; card 4 -1; mend 4 2 9; pass 0;
-        mend 0 1 6; mend 3 6 9; mend 9 5 7; mend 0 7 4; undo; undo; feed 99; feed 43;
-        row 0 0 6; put 0 0 1; put 0 1 5; put 0 2 4; put 0 3 -1; put 0 4 2; put 0 5 30; keep 1 1; row 3 1 3; put 3 2 -7;
-        row 4 3 2; put 4 1 5000000000; row 5 0 2; put 5 0 3
-        """;
-
-    private static final String LAST = """
-        house 0; house 1; card 0 29; card 1 -1; mend 29 5 9; pass 0; pass 2; mend 0 7 29; image; row 0 0 1; body 3;
-        act 0 1 1; mend 0 1 5; undo; feed 33
-        """;
-
-    private static final String FULLEST = full();
-
     // Wrong in every state.
     private static final String ALWAYS = """
         house -1 = -1; house 144 = -1; card -1 0 = -1; card 6 0 = -1; card 0 -2 = -1; card 0 30 = -1;
@@ -93,79 +74,32 @@ public final class RefusalTest extends Bench {
         cards 0 0 1 = 0; cards 0 0 12 = 0; evening 63 6 = -2; back = -5; build 0 = -5; planned 4 4 = -1
         """;
 
-    private static String full() {
-        StringBuilder calls = new StringBuilder();
-        for (int i = 0; i < 6; i++) {
-            calls.append("house ").append(20 * i).append(';');
-        }
-        for (int i = 0; i < 12; i++) {
-            calls.append("card ").append(i % 6).append(' ').append(i - 1).append(';');
-        }
-        for (int i = 0; i < 120; i++) {
-            calls.append("feed ").append((int) (i % 2 == 0 ? 'c' : i == 119 ? '?' : '+')).append(';');
-        }
-        for (int i = 0; i < 50; i++) {
-            calls.append("body ").append(i % 8).append(';');
-        }
-        for (int i = 0; i < 41; i++) {
-            calls.append("mend ").append(i % 6).append(" 0 ").append(i + 50).append(';');
-        }
-        return calls + "row 0 0 24; act 45 3 7";
-    }
-
     public static void main(String[] args) {
         says("What is answered so changes nothing.");
-        compare("a new one", NEW, ALWAYS + ";" + OF_NEW);
-        compare("a rich one", RICH, ALWAYS + ";" + OF_RICH);
-        compare("the last day", LAST, ALWAYS + ";" + OF_LAST);
-        compare("a full one", FULLEST, ALWAYS + ";" + OF_FULLEST);
+        compare("a new one", Towns.NEW, ALWAYS + ";" + OF_NEW);
+        compare("a rich one", Towns.RICH, ALWAYS + ";" + OF_RICH);
+        compare("the last day", Towns.LAST, ALWAYS + ";" + OF_LAST);
+        compare("a full one", Towns.FULLEST, ALWAYS + ";" + OF_FULLEST);
         says("IN THOUGHT, from NOW on, no fires");
-        thoughtsChangeNothing("a new one", NEW);
-        thoughtsChangeNothing("a rich one", RICH);
-        thoughtsChangeNothing("the last day", LAST);
-        thoughtsChangeNothing("a full one", FULLEST);
+        thoughtsChangeNothing("a new one", Towns.NEW);
+        thoughtsChangeNothing("a rich one", Towns.RICH);
+        thoughtsChangeNothing("the last day", Towns.LAST);
+        thoughtsChangeNothing("a full one", Towns.FULLEST);
         end();
-    }
-
-    private static List<String> split(String calls) {
-        List<String> list = new ArrayList<>();
-        for (String call : calls.split(";")) {
-            if (!call.isBlank()) {
-                list.add(call.strip());
-            }
-        }
-        return list;
-    }
-
-    private static long call(AskedFire x, String call) {
-        String[] words = call.split("\\s+");
-        Number[] args = new Number[words.length - 1];
-        for (int i = 0; i < args.length; i++) {
-            args[i] = Long.valueOf(words[i + 1]);
-        }
-        return answer(x, words[0], args);
-    }
-
-    private static AskedFire led(String calls) {
-        AskedFire x = new AskedFire();
-        for (String call : split(calls)) {
-            call(x, call);
-        }
-        return x;
     }
 
     private static void compare(String state, String calls, String refusals) {
         List<String> looks = looks();
         List<String> deeds = deeds();
-        int most = split(calls).size() + 1 + looks.size() + deeds.size();
+        int most = Towns.split(calls).size() + 1 + looks.size() + deeds.size();
         due(state + ": within 512 calls, " + most, most <= MOST_CALLS ? 1 : 0, 1);
-        AskedFire plain = led(calls);
+        AskedFire plain = Towns.led(calls);
         List<Long> want = answers(plain, looks);
         want.addAll(answers(plain, deeds));
-        for (String refusal : split(refusals)) {
+        for (String refusal : Towns.split(refusals)) {
             String[] sides = refusal.split("=");
-            AskedFire x = led(calls);
-            due(state + ": " + sides[0], call(x, sides[0]), refusalOf(sides[1].strip()));
+            AskedFire x = Towns.led(calls);
+            due(state + ": " + sides[0], Towns.call(x, sides[0]), refusalOf(sides[1].strip()));
             List<Long> got = answers(x, looks);
             got.addAll(answers(x, deeds));
             for (int i = 0; i < want.size(); i++) {
@@ -182,7 +116,7 @@ public final class RefusalTest extends Bench {
     private static List<Long> answers(AskedFire x, List<String> calls) {
         List<Long> list = new ArrayList<>();
         for (String call : calls) {
-            list.add(call(x, call));
+            list.add(Towns.call(x, call));
         }
         return list;
     }
@@ -217,18 +151,18 @@ public final class RefusalTest extends Bench {
             list.add("trace " + i);
             list.add("trace " + (i + 5));
         }
-        list.addAll(split("of 0 7; first 0; first 1; lists 0; lists 1; lists 2; plan 2 0; plan 2 1; planned 2 0; judge 0; "
+        list.addAll(Towns.split("of 0 7; first 0; first 1; lists 0; lists 1; lists 2; plan 2 0; plan 2 1; planned 2 0; judge 0; "
             + "drawn 5 2 -1; accepts 29 0; accepts 10 0; evening 3 -2; mean 3 0; element 0 5; element 4 1"));
         return list;
     }
 
     /** Calls that bring to light what only deeds show: changes kept, the image, THE TAPE, THE LAW. */
     private static List<String> deeds() {
-        List<String> list = new ArrayList<>(split("redo; redo; redo; redo"));
+        List<String> list = new ArrayList<>(Towns.split("redo; redo; redo; redo"));
         for (int i = 0; i < 42; i++) {
             list.add("undo");
         }
-        list.addAll(split("of 0 0; of 0 1; redo; redo; count 3; feed 99; law; likes 0 29; count 2; pass 1; pass 1; of 0 8; "
+        list.addAll(Towns.split("of 0 0; of 0 1; redo; redo; count 3; feed 99; law; likes 0 29; count 2; pass 1; pass 1; of 0 8; "
             + "of 0 7; led 3; back; of 0 7; of 0 8; led 0; led 1; house 1; card 0 29; body 3; cards 0 0 2; keep 2 0; "
             + "taken 2 0; likes 0 29; drawn 3 1 0"));
         return list;
@@ -239,13 +173,13 @@ public final class RefusalTest extends Bench {
             + "planned 4 3; ask 0; ask 1; sweeten 0 29 0; sweeten 1 29 1; sweeten 1 10 0; evening 3 0; evening 1 -2; "
             + "belief 0 0 6 0; lists 0; lists 1; lists 2; judge 0; read 0 0 0; read 0 1 3; drawn 9 30 -1; trace 0; "
             + "element 0 0; taken 1 0; count 5; of 0 0; led 0";
-        AskedFire plain = led(calls);
+        AskedFire plain = Towns.led(calls);
         List<Long> want = answers(plain, looks());
         want.addAll(answers(plain, deeds()));
-        for (String thought : split(thoughts)) {
-            AskedFire x = led(calls);
-            long first = call(x, thought);
-            due(state + ": once more " + thought, call(x, thought), first);
+        for (String thought : Towns.split(thoughts)) {
+            AskedFire x = Towns.led(calls);
+            long first = Towns.call(x, thought);
+            due(state + ": once more " + thought, Towns.call(x, thought), first);
             List<Long> got = answers(x, looks());
             got.addAll(answers(x, deeds()));
             due(state + ": all alike behind " + thought, got.equals(want) ? 1 : 0, 1);

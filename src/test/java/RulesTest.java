@@ -39,6 +39,7 @@ public final class RulesTest {
         String source = Files.readString(Path.of(SOURCE));
         words(source.replaceAll("(?s)/\\*.*?\\*/", "").replaceAll("//[^\n]*", ""));
         methods(source);
+        made(source);
         System.out.println(wrong == 0 ? "all rules hold" : wrong + " rules are broken");
         if (wrong != 0) {
             System.exit(1);
@@ -116,6 +117,16 @@ public final class RulesTest {
         Matcher called = Pattern.compile("\\b(Math|Integer|Long|Arrays)\\.(\\w+)").matcher(code);
         while (called.find()) {
             rule(4, called.group(), Set.of("max", "min", "abs", "bitCount").contains(called.group(2)));
+        }
+    }
+
+    /** All runs live in one room: objects are made by the constructor (and what it initialises) alone. */
+    private static void made(String source) {
+        for (String line : source.split("\n")) {
+            if (line.matches(".*\\bnew\\b.*")) {
+                boolean once = line.matches("\\s+(private )?final \\S+ \\w+ = new .*") || line.contains("shelves[i] = new Shelf()");
+                rule(12, "made by a call: " + line.trim(), once);
+            }
         }
     }
 

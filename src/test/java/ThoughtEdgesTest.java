@@ -155,6 +155,15 @@ public final class ThoughtEdgesTest extends Bench {
         due("all wet", x.first(1), 0);
         x.mend(17, 5, 1);
         due("one less wet", x.first(1), 17);
+        for (int now = 0; now < 30; now++) {
+            for (int day = now; day < 30; day++) {
+                AskedFire y = at(now, new AskedFire());
+                y.mend(day, 5, 6);
+                due("NOW " + now + ", driest " + day, y.first(1), day);
+                y.mend(day, 5, 4);
+                due("NOW " + now + ", wettest " + day, y.first(1), day == now && now < 29 ? now + 1 : now);
+            }
+        }
     }
 
     private static void odds() {
@@ -212,19 +221,28 @@ public final class ThoughtEdgesTest extends Bench {
         burnt("no risk", x, 0, 8, 0, 1);
     }
 
+    /** One house, whose cards are all for days gone by. */
+    private static AskedFire late(int now) {
+        AskedFire x = at(now, town(1));
+        for (int i = 0; i < 12; i++) {
+            x.card(0, 9);
+        }
+        return x;
+    }
+
     private static void burnsTo29() {
         says("days from NOW on (to 29 at most)");
         int[] nows = {21, 22, 23, 24, 28, 29};
         int[] days = {8, 8, 7, 6, 2, 1};
         for (int i = 0; i < nows.length; i++) {
-            AskedFire x = at(nows[i], town(1));
+            AskedFire x = late(nows[i]);
             burnt("NOW " + nows[i], x, 0, 8, power(12, days[i]) - power(11, days[i]), power(12, days[i]));
             int t = Math.min(4, days[i]);
             mean("mean, NOW " + nows[i], x, 4, power(12, t) - power(11, t), power(12, t));
             fraction("plan, NOW " + nows[i], x.plan(4, 0), x.plan(4, 1), power(12, t) - power(11, t), power(12, t));
         }
         for (int now = 25; now <= 29; now++) {
-            AskedFire x = at(now, town(1));
+            AskedFire x = late(now);
             int t = Math.min(4, 30 - now);
             mean("mean, NOW " + now, x, 4, power(12, t) - power(11, t), power(12, t));
             fraction("plan, NOW " + now, x.plan(4, 0), x.plan(4, 1), power(12, t) - power(11, t), power(12, t));
@@ -381,6 +399,11 @@ public final class ThoughtEdgesTest extends Bench {
         twin.mend(0, 6, 0);
         plan("on day 0 the dated one, then 1", twin, 2, 0, 1, 0, 1);
         plan("three days", twin, 3, 0, 1, 0, 1, 2);
+        AskedFire mixed = asked(1, -1);
+        mixed.card(0, 0);
+        plan("the one without a day is spared for day 1", mixed, 2, 0, 1, 1, 0);
+        mixed.mend(1, 6, 1);
+        plan("and for day 0", mixed, 2, 0, 1, 0, 1);
     }
 
     private static void planOnce() {
@@ -398,6 +421,11 @@ public final class ThoughtEdgesTest extends Bench {
         y.card(0, -1);
         // 0 burns by 1/2 a day, 1 by 1/4: day 0 for 1, day 1 for 0: 1/2 + 1/4; else 1/2 + 7/16, or worse.
         plan("one goes aside", y, 2, 3, 4, 0, 1);
+        AskedFire lost = burning(6);
+        weather(lost, 9, 9);
+        lost.card(0, 0);
+        plan("five are lost on the first day, all by the second", lost, 1, 5, 1, 0);
+        plan("so it saves none", lost, 2, 6, 1, NOT, NOT);
         AskedFire full = town(6);
         for (int i = 0; i < 12; i++) {
             full.card(i % 6, -1);
@@ -476,6 +504,21 @@ public final class ThoughtEdgesTest extends Bench {
         AskedFire y = town(1);
         y.mend(0, 1, 0);
         due("odds 0 are odds, too", y.ask(0), 0);
+        AskedFire ahead = town(2);
+        ahead.mend(1, 2, 9);
+        ahead.card(1, -1);
+        due("the other's card is used on day 0", ahead.ask(0), 1);
+        AskedFire often = town(2);
+        often.mend(1, 2, 5);
+        often.card(0, 0);
+        often.card(0, 1);
+        often.card(1, 7);
+        often.mend(7, 5, 9);
+        due("it is liked less for the days ahead", often.ask(0), 0);
+        often.mend(1, 2, 2);
+        due("but more than that one", often.ask(0), 7);
+        often.mend(1, 2, 3);
+        due("as much: the other has the lesser card", often.ask(0), 0);
     }
 
     private static void askWith12Cards() {
