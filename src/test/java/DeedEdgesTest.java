@@ -21,6 +21,7 @@ public final class DeedEdgesTest extends Bench {
         fortyAndUndone();
         deedsAreNone();
         nowByDeeds();
+        the512thCall();
         end();
     }
 
@@ -510,5 +511,27 @@ public final class DeedEdgesTest extends Bench {
         x.pass(0);
         due("telling what it is by deeds is none", x.mend(0, 7, 6), 6);
         due("one change still", x.count(3), 1);
+    }
+
+    private static void the512thCall() {
+        says("An object is used for at most 512 calls after it has been made");
+        AskedFire x = new AskedFire();
+        x.house(0);
+        x.card(0, 0);
+        x.feed('1');
+        x.law();
+        for (int i = 1; i <= 250; i++) {
+            due("visit " + i, x.pass(1), 0);
+            due("back to day 0", x.mend(0, 7, 0), 1);
+        }
+        // 504 calls so far.
+        due("days", x.led(0), 250);
+        due("visits", x.led(1), 250);
+        due("saved", x.led(2), 250);
+        due("of the house", x.led(10), 250);
+        due("changes", x.count(3), 40);
+        due("a name", x.feed('n'), 1);
+        due("a law", x.law(), 1);
+        due("the 512th: held within 99", x.likes(0, 0), 99);
     }
 }

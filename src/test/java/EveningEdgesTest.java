@@ -408,6 +408,16 @@ public final class EveningEdgesTest extends Bench {
         due("two stand no more", x.lists(1), 29);
         AskedFire last = at(29, asked(1, 29));
         due("on the last day", last.lists(1), 0);
+        // By the words "all CARDS for it": one USED without a day that has got a day since lies for that day.
+        AskedFire since = asked(1, -1);
+        since.pass(0);
+        due("used", since.lists(1), 1);
+        since.mend(0, 6, 1);
+        due("used, for NOW since", since.lists(1), 0);
+        due("accepted", since.accepts(1, 0), 0);
+        due("matched", since.lists(2), 1);
+        since.mend(0, 6, 0);
+        due("used, for a day gone by", since.lists(1), 1);
     }
 
     private static void match() {
