@@ -505,7 +505,7 @@ public final class AskedFire {
         if (!gentlemen.isBody(body) || act < 0 || act > Gentlemen.TELLS) {
             return 0;
         }
-        return gentlemen.does(body, act, x, 0);
+        return gentlemen.answer(body, act, x);
     }
 
     public int trace(int i) {
@@ -1517,8 +1517,12 @@ public final class AskedFire {
             return Math.min(ran, MOST_TRACED);
         }
 
+        int answer(int n, int act, int x) {
+            return does(n, act, x, 0);
+        }
+
         /** comes(..) and so on: from its own KIND on. */
-        int does(int n, int act, int x, int depth) {
+        private int does(int n, int act, int x, int depth) {
             return runs(n, kinds[n], act, x, depth + 1);
         }
 

@@ -85,6 +85,7 @@ public final class RefusalTest extends Bench {
         thoughtsChangeNothing("a rich one", Towns.RICH);
         thoughtsChangeNothing("the last day", Towns.LAST);
         thoughtsChangeNothing("a full one", Towns.FULLEST);
+        eachForItself();
         end();
     }
 
@@ -183,6 +184,33 @@ public final class RefusalTest extends Bench {
             List<Long> got = answers(x, looks());
             got.addAll(answers(x, deeds()));
             due(state + ": all alike behind " + thought, got.equals(want) ? 1 : 0, 1);
+        }
+    }
+
+    /** Two objects led turn by turn answer as each does when it is led alone. */
+    private static void eachForItself() {
+        says("All memory is the class's own.");
+        AskedFire rich = new AskedFire();
+        AskedFire full = new AskedFire();
+        List<String> first = Towns.split(Towns.RICH);
+        List<String> second = Towns.split(Towns.FULLEST);
+        for (int i = 0; i < Math.max(first.size(), second.size()); i++) {
+            if (i < first.size()) {
+                Towns.call(rich, first.get(i));
+            }
+            if (i < second.size()) {
+                Towns.call(full, second.get(i));
+            }
+        }
+        AskedFire richAlone = Towns.led(Towns.RICH);
+        AskedFire fullAlone = Towns.led(Towns.FULLEST);
+        List<String> all = looks();
+        all.addAll(deeds());
+        for (String call : all) {
+            long wantOfRich = Towns.call(richAlone, call);
+            long wantOfFull = Towns.call(fullAlone, call);
+            due("the rich one beside another: " + call, Towns.call(rich, call), wantOfRich);
+            due("the full one beside another: " + call, Towns.call(full, call), wantOfFull);
         }
     }
 }
