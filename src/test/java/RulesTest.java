@@ -17,13 +17,7 @@ import java.util.stream.Stream;
 /** What can be told of LANGUAGE.md from the source (read from the project's folder) and from the compiled class. */
 public final class RulesTest {
     private static final String SOURCE = "src/main/java/AskedFire.java";
-    private static final String FACE = "house(int) card(int,int) cards(int,int,int) mend(int,int,int) of(int,int) "
-        + "feed(int) law() likes(int,int) accepts(int,int) visits(int,int) first(int) odds(int,int) "
-        + "burns(int,int,int):long mean(int,int):long plan(int,int):long planned(int,int) ask(int) "
-        + "sweeten(int,int,int) evening(int,int) belief(int,int,int,int):long lists(int) judge(int) "
-        + "read(int,int,int) drawn(int,int,int) pass(int) build(int) led(int) image() back() undo() redo() "
-        + "body(int) act(int,int,int) trace(int) keep(int,int) row(int,int,int) put(int,int,long) "
-        + "element(int,int):long shift(int,int,int,int,int) taken(int,int) count(int)";
+    private static final String DOCUMENT = "../shared/DOC.md";
     private static int wrong = 0;
 
     private static void rule(int number, String what, boolean holds) {
@@ -48,10 +42,16 @@ public final class RulesTest {
 
     private static String form(Method m) {
         String params = Stream.of(m.getParameterTypes()).map(Class::getName).collect(Collectors.joining(","));
-        return m.getName() + "(" + params + ")" + (m.getReturnType() == long.class ? ":long" : "");
+        return m.getReturnType().getName() + " " + m.getName() + "(" + params + ")";
     }
 
-    private static void face() {
+    private static Set<String> told(String document, String form) {
+        return Pattern.compile(form).matcher(document).results().map(r -> r.group(1)).collect(Collectors.toSet());
+    }
+
+    /** The face as the document has it. */
+    private static void face() throws Exception {
+        String document = Files.readString(Path.of(DOCUMENT));
         Class<?> face = AskedFire.class;
         rule(1, "public and final", Modifier.isPublic(face.getModifiers()) && Modifier.isFinal(face.getModifiers()));
         Set<String> have = new TreeSet<>();
@@ -62,17 +62,19 @@ public final class RulesTest {
             rule(1, m + " is not public", Modifier.isPublic(m.getModifiers()) && !Modifier.isStatic(m.getModifiers()));
             have.add(form(m));
         }
-        Set<String> want = new TreeSet<>(List.of(FACE.split(" ")));
-        rule(1, "face has " + have + ", due " + want, have.equals(want));
+        Set<String> want = told(document, "public ((?:int|long) \\w+\\([^)]*\\));")
+            .stream().map(m -> m.replaceAll(" \\w+(?=[,)])", "").replace(", ", ",")).collect(Collectors.toSet());
+        rule(1, "face has " + have + ", due " + want, have.equals(want) && have.size() == 41);
         Set<String> constants = new TreeSet<>();
         for (Field f : face.getDeclaredFields()) {
             if (Modifier.isPublic(f.getModifiers())) {
-                constants.add(f.getName());
+                constants.add(f.getName() + " = " + f.getInt(null));
             } else {
                 rule(1, f + " is not private", Modifier.isPrivate(f.getModifiers()));
             }
         }
-        rule(1, "constants " + constants, constants.equals(Set.of("BAD", "NOT", "FULL", "STATE", "VOID")));
+        Set<String> due = told(document, "([A-Z]+ = -\\d+)[,;]");
+        rule(1, "constants " + constants + ", due " + due, constants.equals(due));
         Constructor<?>[] made = face.getDeclaredConstructors();
         rule(1, "one public constructor", made.length == 1 && Modifier.isPublic(made[0].getModifiers()));
     }
